@@ -4,10 +4,20 @@ final class Check {
         Object answer();
     }
 
+    private static String inCase = "";
     private static int checked = 0;
     private static int wrong = 0;
 
     private Check() {
+    }
+
+    /** What is told from here on begins with the name of this case. */
+    static void beginCase(String name) {
+        inCase = name + ": ";
+    }
+
+    static int checkedSoFar() {
+        return checked;
     }
 
     static String outcome(Call call) {
@@ -26,7 +36,7 @@ final class Check {
         checked++;
         if (!String.valueOf(got).equals(String.valueOf(want))) {
             wrong++;
-            System.out.println(what + " answered " + got + ", due is " + want);
+            System.out.println(inCase + what + " answered " + got + ", due is " + want);
         }
     }
 

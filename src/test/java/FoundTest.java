@@ -2,10 +2,7 @@ import java.math.BigInteger;
 
 /** Promises 8 to 12: the curve that is found, and what is asked of it. */
 public final class FoundTest {
-    private static final long P = (1L << 61) - 1;
-    private static final String ARGUMENT = "throws.IllegalArgumentException";
-    private static final String STATE = "throws.IllegalStateException";
-    private static final String NO_ELEMENT = "throws.NoSuchElementException";
+    private static final long P = Desks.P;
 
     public static void main(String[] args) {
         promise8FindAnyShape();
@@ -99,12 +96,12 @@ public final class FoundTest {
         for (int place = 1; place <= 6; place++) {
             desk.put(0, place, place <= 3 ? 10 + place : 20 + 5 * place);
         }
-        Check.due("find with three on each of two lines", () -> desk.find(0, 2), STATE);
+        Check.due("find with three on each of two lines", () -> desk.find(0, 2), Desks.STATE);
         desk.put(0, 3, 35);
         Check.due("find with four on the other line", () -> desk.find(0, 2), 2);
         Check.due("at(0)", () -> desk.at(0), 20);
-        Check.due("find with at most one wrong", () -> desk.find(0, 1), STATE);
-        Check.due("find with none wrong", () -> desk.find(0, 0), STATE);
+        Check.due("find with at most one wrong", () -> desk.find(0, 1), Desks.STATE);
+        Check.due("find with none wrong", () -> desk.find(0, 0), Desks.STATE);
         desk.lose(0, 1);
         Check.due("find without a wrong one", () -> desk.find(0, 1), 1);
         desk.lose(0, 2);
@@ -115,12 +112,12 @@ public final class FoundTest {
         SplitDesk desk = new SplitDesk();
         desk.deal(0, 0, 16, 3, 3);
         for (int e : new int[] {-1, 8, Integer.MIN_VALUE, Integer.MAX_VALUE, 1 << 30, 1 << 31}) {
-            Check.due("find(0, " + e + ")", () -> desk.find(0, e), ARGUMENT);
+            Check.due("find(0, " + e + ")", () -> desk.find(0, e), Desks.ARGUMENT);
         }
         for (int s : new int[] {-1, 8, Integer.MIN_VALUE, Integer.MAX_VALUE}) {
-            Check.due("find(" + s + ", 0)", () -> desk.find(s, 0), ARGUMENT);
+            Check.due("find(" + s + ", 0)", () -> desk.find(s, 0), Desks.ARGUMENT);
         }
-        Check.due("nothing was found", () -> desk.at(0), NO_ELEMENT);
+        Check.due("nothing was found", () -> desk.at(0), Desks.NO_ELEMENT);
         for (int t = 0; t <= 8; t++) {
             for (int e = 0; e <= 7 && t + 1 + 2 * e <= 16; e++) {
                 findWithJustEnough(t, e);
@@ -128,7 +125,7 @@ public final class FoundTest {
         }
         desk.deal(2, 4, 5, 1, 1);
         desk.join(3, 2, 2, 2);
-        Check.due("a product of degree 8 at 5 places", () -> desk.find(3, 0), ARGUMENT);
+        Check.due("a product of degree 8 at 5 places", () -> desk.find(3, 0), Desks.ARGUMENT);
     }
 
     private static void findWithJustEnough(int t, int e) {
@@ -139,7 +136,7 @@ public final class FoundTest {
         }
         Check.due("just enough shares of degree " + t + ": find(1, " + e + ")", () -> desk.find(1, e), 0);
         desk.lose(1, 16);
-        Check.due("too few shares of degree " + t + ": find(1, " + e + ")", () -> desk.find(1, e), ARGUMENT);
+        Check.due("too few shares of degree " + t + ": find(1, " + e + ")", () -> desk.find(1, e), Desks.ARGUMENT);
     }
 
     private static void promise8WhatWasFoundStays() {
@@ -151,9 +148,9 @@ public final class FoundTest {
         desk.put(1, 1, 1);
         desk.put(1, 3, 2);
         desk.lose(0, 5);
-        Check.due("no such curve", () -> desk.find(1, 1), STATE);
-        Check.due("too few", () -> desk.find(1, 2), ARGUMENT);
-        Check.due("no such split", () -> desk.find(8, 0), ARGUMENT);
+        Check.due("no such curve", () -> desk.find(1, 1), Desks.STATE);
+        Check.due("too few", () -> desk.find(1, 2), Desks.ARGUMENT);
+        Check.due("no such split", () -> desk.find(8, 0), Desks.ARGUMENT);
         desk.deal(0, 2, 4, 7, 7);
         parts("what was found stays", desk, Model.drawn(BigInteger.valueOf(42), 1, 6));
         Check.due("stays: wrong(2)", () -> desk.wrong(2), true);
@@ -167,9 +164,9 @@ public final class FoundTest {
 
     private static void promise9At() {
         SplitDesk desk = new SplitDesk();
-        Check.due("at before find", () -> desk.at(5), NO_ELEMENT);
+        Check.due("at before find", () -> desk.at(5), Desks.NO_ELEMENT);
         desk.deal(4, 8, 9, -3, -4);
-        Check.due("at behind a deal", () -> desk.at(5), NO_ELEMENT);
+        Check.due("at behind a deal", () -> desk.at(5), Desks.NO_ELEMENT);
         desk.find(4, 0);
         BigInteger[] c = Model.drawn(Model.big(-3), 8, -4);
         long[] places = {0, 1, 16, 17, -1, P - 1, P, P + 2, -P, 1L << 60, Long.MIN_VALUE, Long.MAX_VALUE};
@@ -183,7 +180,7 @@ public final class FoundTest {
 
     private static void promise10Part() {
         SplitDesk desk = new SplitDesk();
-        Check.due("part before find", () -> desk.part(0), NO_ELEMENT);
+        Check.due("part before find", () -> desk.part(0), Desks.NO_ELEMENT);
         desk.deal(0, 8, 16, P - 1, 77);
         desk.find(0, 3);
         parts("degree 8", desk, Model.drawn(Model.big(-1), 8, 77));
@@ -191,50 +188,40 @@ public final class FoundTest {
         desk.find(0, 0);
         parts("degree 2 behind one of 8", desk, Model.drawn(Model.big(4), 2, 78));
         for (int k : new int[] {-1, 9, Integer.MIN_VALUE, Integer.MAX_VALUE}) {
-            Check.due("part(" + k + ")", () -> desk.part(k), NO_ELEMENT);
+            Check.due("part(" + k + ")", () -> desk.part(k), Desks.NO_ELEMENT);
         }
-    }
-
-    private static void wrongPlaces(String when, SplitDesk desk, String due) {
-        StringBuilder got = new StringBuilder();
-        for (int place = 0; place <= 17; place++) {
-            if (desk.wrong(place)) {
-                got.append(place).append(' ');
-            }
-        }
-        Check.same(when, got.toString().trim(), due);
     }
 
     private static void promise11Wrong() {
         SplitDesk desk = new SplitDesk();
-        wrongPlaces("none was found", desk, "");
+        Desks.wrongPlaces("none was found", desk, "");
         desk.deal(0, 0, 16, 5, 5);
         for (int place : new int[] {1, 6, 16}) {
             desk.put(0, place, 4);
         }
         desk.lose(0, 7);
-        wrongPlaces("none was found yet", desk, "");
+        Desks.wrongPlaces("none was found yet", desk, "");
         desk.find(0, 4);
-        wrongPlaces("found", desk, "1 6 16");
+        Desks.wrongPlaces("found", desk, "1 6 16");
         for (int place : new int[] {-1, 0, 17, Integer.MIN_VALUE, Integer.MAX_VALUE}) {
             Check.due("wrong(" + place + ")", () -> desk.wrong(place), false);
         }
         desk.put(0, 2, 9);
         desk.put(0, 6, 5);
         desk.lose(0, 16);
-        wrongPlaces("as it was then", desk, "1 6 16");
+        Desks.wrongPlaces("as it was then", desk, "1 6 16");
         desk.mend();
-        wrongPlaces("as it was then, behind a mend", desk, "1 6 16");
+        Desks.wrongPlaces("as it was then, behind a mend", desk, "1 6 16");
         desk.find(0, 4);
-        wrongPlaces("found again, all mended", desk, "");
+        Desks.wrongPlaces("found again, all mended", desk, "");
         desk.put(0, 3, 1);
         desk.put(0, 16, 1);
         desk.find(0, 4);
-        wrongPlaces("found again", desk, "3 16");
+        Desks.wrongPlaces("found again", desk, "3 16");
         desk.deal(1, 0, 5, 1, 1);
         desk.put(1, 5, 2);
         desk.find(1, 1);
-        wrongPlaces("found for one with fewer places", desk, "5");
+        Desks.wrongPlaces("found for one with fewer places", desk, "5");
     }
 
     private static void promise12Mend() {
@@ -273,11 +260,11 @@ public final class FoundTest {
         Check.due("its n", () -> desk.split(0, 1), 16);
         Check.due("all are there", () -> desk.split(0, 2), 16);
         Check.due("as the curve tells", () -> desk.share(0, 16), Model.value(c, Model.big(16)));
-        Check.due("it is no line", () -> desk.find(0, 0), STATE);
+        Check.due("it is no line", () -> desk.find(0, 0), Desks.STATE);
         desk.deal(0, 0, 1, 3, 3);
         Check.due("mend one that has one place now", () -> desk.mend(), true);
         Check.due("at its place", () -> desk.share(0, 1), Model.value(c, Model.big(1)));
-        Check.due("none at the next", () -> desk.share(0, 2), NO_ELEMENT);
+        Check.due("none at the next", () -> desk.share(0, 2), Desks.NO_ELEMENT);
         desk.join(0, 0, 7, 0);
         Check.due("mend one that has no places now", () -> desk.mend(), true);
         Check.due("it has none", () -> desk.split(0, 2), 0);

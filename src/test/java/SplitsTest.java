@@ -2,9 +2,7 @@ import java.math.BigInteger;
 
 /** Promises 1 to 7, 13 and 14: the splits and their shares. */
 public final class SplitsTest {
-    private static final long P = (1L << 61) - 1;
-    private static final String NO_ELEMENT = "throws.NoSuchElementException";
-    private static final int[] NO_SPLITS = {-1, 8, 9, Integer.MIN_VALUE, Integer.MAX_VALUE};
+    private static final long P = Desks.P;
 
     public static void main(String[] args) {
         promise1NewObject();
@@ -23,60 +21,24 @@ public final class SplitsTest {
         Check.end();
     }
 
-    private static void shape(String when, SplitDesk desk, int s, int degree, int n, int there) {
-        Check.due(when + ": split(" + s + ", 0)", () -> desk.split(s, 0), degree);
-        Check.due(when + ": split(" + s + ", 1)", () -> desk.split(s, 1), n);
-        Check.due(when + ": split(" + s + ", 2)", () -> desk.split(s, 2), there);
-    }
-
-    /** The shares from place 1 on, null for one that is lost, and none behind them. */
-    private static void shares(String when, SplitDesk desk, int s, Long... due) {
-        for (int i = 0; i < due.length; i++) {
-            int place = i + 1;
-            Check.due(when + ": share(" + s + ", " + place + ")", () -> desk.share(s, place),
-                due[i] == null ? NO_ELEMENT : due[i]);
-        }
-        Check.due(when + ": the share behind the last", () -> desk.share(s, due.length + 1), NO_ELEMENT);
-    }
-
-    private static Long[] onCurve(BigInteger[] c, int n) {
-        Long[] values = new Long[n];
-        for (int i = 0; i < n; i++) {
-            values[i] = Model.value(c, Model.big(i + 1)).longValueExact();
-        }
-        return values;
-    }
-
-    /** A split of degree t whose shares are just these. */
-    private static void lay(SplitDesk desk, int s, int t, Long... values) {
-        desk.deal(s, t, values.length, 0, 0);
-        for (int i = 0; i < values.length; i++) {
-            if (values[i] == null) {
-                desk.lose(s, i + 1);
-            } else {
-                desk.put(s, i + 1, values[i]);
-            }
-        }
-    }
-
     private static void promise1NewObject() {
         SplitDesk desk = new SplitDesk();
         Check.same("NONE", SplitDesk.NONE, -1);
         for (int s = 0; s < 8; s++) {
             int split = s;
-            shape("new", desk, s, 0, 0, 0);
-            shares("new", desk, s);
+            Desks.shape("new", desk, s, 0, 0, 0);
+            Desks.shares("new", desk, s);
             Check.due("new: put", () -> desk.put(split, 1, 5), false);
             Check.due("new: lose", () -> desk.lose(split, 1), false);
             Check.due("new: find", () -> desk.find(split, 0), "throws.IllegalArgumentException");
         }
-        Check.due("new: at", () -> desk.at(0), NO_ELEMENT);
-        Check.due("new: part", () -> desk.part(0), NO_ELEMENT);
+        Check.due("new: at", () -> desk.at(0), Desks.NO_ELEMENT);
+        Check.due("new: part", () -> desk.part(0), Desks.NO_ELEMENT);
         Check.due("new: wrong", () -> desk.wrong(1), false);
         Check.due("new: mend", () -> desk.mend(), false);
         SplitDesk other = new SplitDesk();
         other.deal(0, 0, 1, 5, 0);
-        shape("another object was dealt", desk, 0, 0, 0, 0);
+        Desks.shape("another object was dealt", desk, 0, 0, 0, 0);
     }
 
     private static void promise2Deal() {
@@ -89,19 +51,19 @@ public final class SplitsTest {
             int degree = t;
             BigInteger[] c = Model.drawn(Model.big(number), t, seed);
             Check.due("deal", () -> desk.deal(degree % 8, degree, degree + 1, number, seed), true);
-            shape("fewest places", desk, t % 8, t, t + 1, t + 1);
-            shares("fewest places", desk, t % 8, onCurve(c, t + 1));
+            Desks.shape("fewest places", desk, t % 8, t, t + 1, t + 1);
+            Desks.shares("fewest places", desk, t % 8, Desks.onCurve(c, t + 1));
             Check.due("deal", () -> desk.deal(7, degree, 16, number, seed), true);
-            shape("most places", desk, 7, t, 16, 16);
-            shares("most places", desk, 7, onCurve(c, 16));
+            Desks.shape("most places", desk, 7, t, 16, 16);
+            Desks.shares("most places", desk, 7, Desks.onCurve(c, 16));
         }
     }
 
     private static void promise2DealRefused() {
         SplitDesk desk = new SplitDesk();
         desk.deal(0, 2, 4, 9, 9);
-        Long[] before = onCurve(Model.drawn(Model.big(9), 2, 9), 4);
-        for (int s : NO_SPLITS) {
+        Long[] before = Desks.onCurve(Model.drawn(Model.big(9), 2, 9), 4);
+        for (int s : Desks.NO_SPLITS) {
             Check.due("deal(" + s + ", ..)", () -> desk.deal(s, 1, 3, 5, 5), false);
         }
         int[][] wrongShapes = {
@@ -112,8 +74,8 @@ public final class SplitsTest {
             Check.due("deal(0, " + shape[0] + ", " + shape[1] + ", ..)",
                 () -> desk.deal(0, shape[0], shape[1], 5, 5), false);
         }
-        shape("refused", desk, 0, 2, 4, 4);
-        shares("refused", desk, 0, before);
+        Desks.shape("refused", desk, 0, 2, 4, 4);
+        Desks.shares("refused", desk, 0, before);
     }
 
     private static void promise2DealAgain() {
@@ -122,21 +84,21 @@ public final class SplitsTest {
         desk.lose(3, 1);
         desk.lose(3, 9);
         desk.deal(3, 0, 2, 77, 1);
-        shape("dealt again", desk, 3, 0, 2, 2);
-        shares("dealt again", desk, 3, 77L, 77L);
+        Desks.shape("dealt again", desk, 3, 0, 2, 2);
+        Desks.shares("dealt again", desk, 3, 77L, 77L);
         desk.deal(3, 0, 10, 78, 1);
-        shape("dealt larger", desk, 3, 0, 10, 10);
+        Desks.shape("dealt larger", desk, 3, 0, 10, 10);
         Check.due("what was lost before is there", () -> desk.share(3, 9), 78);
-        shape("another split", desk, 2, 0, 0, 0);
+        Desks.shape("another split", desk, 2, 0, 0, 0);
     }
 
     private static void promise3Put() {
         SplitDesk desk = new SplitDesk();
-        lay(desk, 1, 0, 1L, null, 3L);
+        Desks.lay(desk, 1, 0, 1L, null, 3L);
         Check.due("put", () -> desk.put(1, 1, 10), true);
         Check.due("put where it was lost", () -> desk.put(1, 2, -1), true);
-        shares("put", desk, 1, 10L, P - 1, 3L);
-        shape("put", desk, 1, 0, 3, 3);
+        Desks.shares("put", desk, 1, 10L, P - 1, 3L);
+        Desks.shape("put", desk, 1, 0, 3, 3);
         long[][] taken = {{P, 0}, {P + 5, 5}, {-P, 0}, {-P - 1, P - 1}, {2 * P, 0}, {Long.MAX_VALUE, 3},
             {Long.MIN_VALUE, P - 4}};
         for (long[] pair : taken) {
@@ -146,78 +108,78 @@ public final class SplitsTest {
         for (int place : new int[] {0, -1, 4, 16, 17, Integer.MIN_VALUE, Integer.MAX_VALUE}) {
             Check.due("put at " + place, () -> desk.put(1, place, 8), false);
         }
-        for (int s : NO_SPLITS) {
+        for (int s : Desks.NO_SPLITS) {
             Check.due("put(" + s + ", ..)", () -> desk.put(s, 1, 8), false);
         }
-        shape("put refused", desk, 1, 0, 3, 3);
-        shares("put refused", desk, 1, 10L, P - 1, P - 4);
+        Desks.shape("put refused", desk, 1, 0, 3, 3);
+        Desks.shares("put refused", desk, 1, 10L, P - 1, P - 4);
     }
 
     private static void promise4Lose() {
         SplitDesk desk = new SplitDesk();
-        lay(desk, 6, 1, 5L, 6L, 7L);
+        Desks.lay(desk, 6, 1, 5L, 6L, 7L);
         Check.due("lose", () -> desk.lose(6, 2), true);
-        shares("lost", desk, 6, 5L, null, 7L);
-        shape("lost", desk, 6, 1, 3, 2);
+        Desks.shares("lost", desk, 6, 5L, null, 7L);
+        Desks.shape("lost", desk, 6, 1, 3, 2);
         Check.due("lose again", () -> desk.lose(6, 2), false);
         for (int place : new int[] {0, -1, 4, 17, Integer.MIN_VALUE, Integer.MAX_VALUE}) {
             Check.due("lose at " + place, () -> desk.lose(6, place), false);
         }
-        for (int s : NO_SPLITS) {
+        for (int s : Desks.NO_SPLITS) {
             Check.due("lose(" + s + ", 1)", () -> desk.lose(s, 1), false);
         }
         Check.due("lose the first", () -> desk.lose(6, 1), true);
         Check.due("lose the last", () -> desk.lose(6, 3), true);
-        shape("all lost", desk, 6, 1, 3, 0);
+        Desks.shape("all lost", desk, 6, 1, 3, 0);
     }
 
     private static void promise5Join() {
         SplitDesk desk = new SplitDesk();
-        lay(desk, 0, 1, 10L, P - 1, null, 4L, 5L);
-        lay(desk, 1, 3, 3L, P - 2, 30L, null);
+        Desks.lay(desk, 0, 1, 10L, P - 1, null, 4L, 5L);
+        Desks.lay(desk, 1, 3, 3L, P - 2, 30L, null);
         desk.deal(2, 8, 16, 1, 1);
         Check.due("join added", () -> desk.join(2, 0, 1, 0), true);
-        shape("added", desk, 2, 3, 4, 2);
-        shares("added", desk, 2, 13L, P - 3, null, null);
+        Desks.shape("added", desk, 2, 3, 4, 2);
+        Desks.shares("added", desk, 2, 13L, P - 3, null, null);
         Check.due("join taken", () -> desk.join(2, 1, 0, 1), true);
-        shape("taken", desk, 2, 3, 4, 2);
-        shares("taken", desk, 2, P - 7, P - 1, null, null);
+        Desks.shape("taken", desk, 2, 3, 4, 2);
+        Desks.shares("taken", desk, 2, P - 7, P - 1, null, null);
         Check.due("join taken", () -> desk.join(2, 0, 1, 1), true);
-        shares("taken", desk, 2, 7L, 1L, null, null);
+        Desks.shares("taken", desk, 2, 7L, 1L, null, null);
         Check.due("join product", () -> desk.join(2, 0, 1, 2), true);
-        shape("product", desk, 2, 4, 4, 2);
-        shares("product", desk, 2, 30L, 2L, null, null);
-        shape("what was joined", desk, 0, 1, 5, 4);
-        shape("what was joined", desk, 1, 3, 4, 3);
-        lay(desk, 3, 4, 1L << 60, 1L << 31, P - 1, P - 1, 1L << 40);
+        Desks.shape("product", desk, 2, 4, 4, 2);
+        Desks.shares("product", desk, 2, 30L, 2L, null, null);
+        Desks.shape("what was joined", desk, 0, 1, 5, 4);
+        Desks.shape("what was joined", desk, 1, 3, 4, 3);
+        Desks.lay(desk, 3, 4, 1L << 60, 1L << 31, P - 1, P - 1, 1L << 40);
         Check.due("join product of degree 8", () -> desk.join(4, 3, 3, 2), true);
-        shape("product of degree 8", desk, 4, 8, 5, 5);
-        shares("product of degree 8", desk, 4, 1L << 59, 2L, 1L, 1L, 1L << 19);
+        Desks.shape("product of degree 8", desk, 4, 8, 5, 5);
+        Desks.shares("product of degree 8", desk, 4, 1L << 59, 2L, 1L, 1L, 1L << 19);
         Check.due("join with one of no places", () -> desk.join(4, 3, 7, 0), true);
-        shape("with one of no places", desk, 4, 4, 0, 0);
+        Desks.shape("with one of no places", desk, 4, 4, 0, 0);
     }
 
     private static void promise5JoinOntoItself() {
         SplitDesk desk = new SplitDesk();
-        lay(desk, 0, 2, 10L, 20L, 30L, 40L);
-        lay(desk, 1, 1, 1L, null, 3L);
+        Desks.lay(desk, 0, 2, 10L, 20L, 30L, 40L);
+        Desks.lay(desk, 1, 1, 1L, null, 3L);
         Check.due("join onto the first", () -> desk.join(0, 0, 1, 1), true);
-        shape("onto the first", desk, 0, 2, 3, 2);
-        shares("onto the first", desk, 0, 9L, null, 27L);
+        Desks.shape("onto the first", desk, 0, 2, 3, 2);
+        Desks.shares("onto the first", desk, 0, 9L, null, 27L);
         Check.due("join onto the second", () -> desk.join(1, 0, 1, 2), true);
-        shape("onto the second", desk, 1, 3, 3, 2);
-        shares("onto the second", desk, 1, 9L, null, 81L);
+        Desks.shape("onto the second", desk, 1, 3, 3, 2);
+        Desks.shares("onto the second", desk, 1, 9L, null, 81L);
         Check.due("join of one alone", () -> desk.join(1, 1, 1, 1), true);
-        shape("of one alone", desk, 1, 3, 3, 2);
-        shares("of one alone", desk, 1, 0L, null, 0L);
+        Desks.shape("of one alone", desk, 1, 3, 3, 2);
+        Desks.shares("of one alone", desk, 1, 0L, null, 0L);
     }
 
     private static void promise5JoinRefused() {
         SplitDesk desk = new SplitDesk();
-        lay(desk, 0, 4, 1L, 2L, 3L, 4L, 5L, 6L);
-        lay(desk, 1, 5, 1L, 2L, 3L, 4L, 5L, 6L);
-        lay(desk, 2, 0, 8L);
-        for (int s : NO_SPLITS) {
+        Desks.lay(desk, 0, 4, 1L, 2L, 3L, 4L, 5L, 6L);
+        Desks.lay(desk, 1, 5, 1L, 2L, 3L, 4L, 5L, 6L);
+        Desks.lay(desk, 2, 0, 8L);
+        for (int s : Desks.NO_SPLITS) {
             Check.due("join(" + s + ", 0, 0, 0)", () -> desk.join(s, 0, 0, 0), false);
             Check.due("join(2, " + s + ", 0, 0)", () -> desk.join(2, s, 0, 0), false);
             Check.due("join(2, 0, " + s + ", 0)", () -> desk.join(2, 0, s, 0), false);
@@ -226,31 +188,31 @@ public final class SplitsTest {
             Check.due("join(2, 0, 0, " + how + ")", () -> desk.join(2, 0, 0, how), false);
         }
         Check.due("join product of degree 9", () -> desk.join(2, 0, 1, 2), false);
-        shape("refused", desk, 2, 0, 1, 1);
-        shares("refused", desk, 2, 8L);
+        Desks.shape("refused", desk, 2, 0, 1, 1);
+        Desks.shares("refused", desk, 2, 8L);
         Check.due("join added of the same", () -> desk.join(2, 0, 1, 0), true);
-        shape("added of the same", desk, 2, 5, 6, 6);
+        Desks.shape("added of the same", desk, 2, 5, 6, 6);
     }
 
     private static void promise6Scale() {
         SplitDesk desk = new SplitDesk();
-        lay(desk, 5, 1, 0L, 1L, null, P - 1, 1L << 60);
+        Desks.lay(desk, 5, 1, 0L, 1L, null, P - 1, 1L << 60);
         Check.due("scale", () -> desk.scale(5, 4, 3), true);
-        shares("scaled", desk, 5, 3L, 7L, null, P - 1, 5L);
-        shape("scaled", desk, 5, 1, 5, 4);
+        Desks.shares("scaled", desk, 5, 3L, 7L, null, P - 1, 5L);
+        Desks.shape("scaled", desk, 5, 1, 5, 4);
         Check.due("scale by -1, less 1", () -> desk.scale(5, -1, -1), true);
-        shares("scaled by -1", desk, 5, P - 4, P - 8, null, 0L, P - 6);
+        Desks.shares("scaled by -1", desk, 5, P - 4, P - 8, null, 0L, P - 6);
         Check.due("scale by P + 1, and P more", () -> desk.scale(5, P + 1, P), true);
-        shares("scaled by 1", desk, 5, P - 4, P - 8, null, 0L, P - 6);
+        Desks.shares("scaled by 1", desk, 5, P - 4, P - 8, null, 0L, P - 6);
         Check.due("scale by the least", () -> desk.scale(5, Long.MIN_VALUE, Long.MAX_VALUE), true);
-        shares("scaled by the least", desk, 5, 19L, 35L, null, 3L, 27L);
+        Desks.shares("scaled by the least", desk, 5, 19L, 35L, null, 3L, 27L);
         Check.due("scale one of no places", () -> desk.scale(0, 2, 2), true);
-        for (int s : NO_SPLITS) {
+        for (int s : Desks.NO_SPLITS) {
             Check.due("scale(" + s + ", ..)", () -> desk.scale(s, 2, 2), false);
         }
         desk.lose(5, 1);
         desk.scale(5, 0, 1);
-        shares("scaled by 0", desk, 5, null, 1L, null, 1L, 1L);
+        Desks.shares("scaled by 0", desk, 5, null, 1L, null, 1L, 1L);
     }
 
     private static void promise7Renew() {
@@ -259,51 +221,51 @@ public final class SplitsTest {
             desk.deal(2, 3, 7, 99, 4);
             desk.lose(2, 3);
             Check.due("renew", () -> desk.renew(2, seed), true);
-            Long[] old = onCurve(Model.drawn(Model.big(99), 3, 4), 7);
-            Long[] more = onCurve(Model.drawn(BigInteger.ZERO, 3, seed), 7);
+            Long[] old = Desks.onCurve(Model.drawn(Model.big(99), 3, 4), 7);
+            Long[] more = Desks.onCurve(Model.drawn(BigInteger.ZERO, 3, seed), 7);
             Long[] due = new Long[7];
             for (int i = 0; i < 7; i++) {
                 due[i] = i == 2 ? null : (Long) ((old[i] + more[i]) % P);
             }
-            shares("renewed", desk, 2, due);
-            shape("renewed", desk, 2, 3, 7, 6);
+            Desks.shares("renewed", desk, 2, due);
+            Desks.shape("renewed", desk, 2, 3, 7, 6);
             Check.due("renewed: find", () -> desk.find(2, 1), 0);
             Check.due("renewed: the number", () -> desk.at(0), 99);
         }
         SplitDesk desk = new SplitDesk();
-        lay(desk, 0, 0, 4L, null, 6L);
+        Desks.lay(desk, 0, 0, 4L, null, 6L);
         Check.due("renew of degree 0", () -> desk.renew(0, 8), true);
-        shares("renewed of degree 0", desk, 0, 4L, null, 6L);
+        Desks.shares("renewed of degree 0", desk, 0, 4L, null, 6L);
         Check.due("renew one of no places", () -> desk.renew(7, 8), true);
-        for (int s : NO_SPLITS) {
+        for (int s : Desks.NO_SPLITS) {
             Check.due("renew(" + s + ", 1)", () -> desk.renew(s, 1), false);
         }
     }
 
     private static void promise13Share() {
         SplitDesk desk = new SplitDesk();
-        lay(desk, 7, 0, 11L, null, 13L);
-        shares("laid", desk, 7, 11L, null, 13L);
+        Desks.lay(desk, 7, 0, 11L, null, 13L);
+        Desks.shares("laid", desk, 7, 11L, null, 13L);
         for (int place : new int[] {0, -1, 4, 17, Integer.MIN_VALUE, Integer.MAX_VALUE}) {
-            Check.due("share(7, " + place + ")", () -> desk.share(7, place), NO_ELEMENT);
+            Check.due("share(7, " + place + ")", () -> desk.share(7, place), Desks.NO_ELEMENT);
         }
-        for (int s : NO_SPLITS) {
-            Check.due("share(" + s + ", 1)", () -> desk.share(s, 1), NO_ELEMENT);
+        for (int s : Desks.NO_SPLITS) {
+            Check.due("share(" + s + ", 1)", () -> desk.share(s, 1), Desks.NO_ELEMENT);
         }
-        lay(desk, 7, 0, 1L, 2L, 3L, 4L);
+        Desks.lay(desk, 7, 0, 1L, 2L, 3L, 4L);
         desk.join(7, 7, 6, 0);
-        shares("no places any more", desk, 7);
+        Desks.shares("no places any more", desk, 7);
     }
 
     private static void promise14Split() {
         SplitDesk desk = new SplitDesk();
         desk.deal(0, 3, 12, 5, 5);
         desk.lose(0, 12);
-        shape("dealt", desk, 0, 3, 12, 11);
+        Desks.shape("dealt", desk, 0, 3, 12, 11);
         for (int what : new int[] {-1, 3, Integer.MIN_VALUE, Integer.MAX_VALUE}) {
             Check.due("split(0, " + what + ")", () -> desk.split(0, what), SplitDesk.NONE);
         }
-        for (int s : NO_SPLITS) {
+        for (int s : Desks.NO_SPLITS) {
             for (int i = 0; i <= 2; i++) {
                 int what = i;
                 Check.due("split(" + s + ", " + what + ")", () -> desk.split(s, what), SplitDesk.NONE);
