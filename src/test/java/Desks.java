@@ -126,7 +126,7 @@ final class Desks {
         return desk;
     }
 
-    /** All that can be asked without a change, as a text; it makes 52 calls, and one for each place that a split has. */
+    /** All that can be asked without a change, as a text; 52 calls, and one for each place that a split has. */
     static String seen(SplitDesk desk) {
         StringBuilder seen = new StringBuilder();
         for (int s = 0; s < 8; s++) {
