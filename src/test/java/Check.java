@@ -1,9 +1,10 @@
-/** Counts the answers that are not as due; a call that throws answers "throws." and the exception's name. */
+/** Counts the answers that are not as due and tells the first; a call that throws answers "throws." and its class. */
 final class Check {
     interface Call {
         Object answer();
     }
 
+    private static final int MOST_TOLD = 100;
     private static String inCase = "";
     private static int checked = 0;
     private static int wrong = 0;
@@ -36,7 +37,9 @@ final class Check {
         checked++;
         if (!String.valueOf(got).equals(String.valueOf(want))) {
             wrong++;
-            System.out.println(inCase + what + " answered " + got + ", due is " + want);
+            if (wrong <= MOST_TOLD) {
+                System.out.println(inCase + what + " answered " + got + ", due is " + want);
+            }
         }
     }
 

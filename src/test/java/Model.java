@@ -37,7 +37,7 @@ final class Model {
     static BigInteger value(BigInteger[] c, BigInteger x) {
         BigInteger sum = BigInteger.ZERO;
         for (int k = 0; k < c.length; k++) {
-            sum = sum.add(c[k].multiply(x.modPow(BigInteger.valueOf(k), P)));
+            sum = sum.add(c[k].multiply(x.pow(k)));
         }
         return sum.mod(P);
     }

@@ -302,13 +302,52 @@ public final class TermsBoundaryTest {
         Check.due("at(0)", () -> desk.at(0), 4);
     }
 
-    static void the512thCallIsAnswered() {
+    /** Behind 511 calls: split 3 has the shares 20, 21, 20, 22 and a lost one, and a curve was found for it or not. */
+    private static void asThe512thCall(String what, boolean found, Desks.DeskCall call, Object due) {
         SplitDesk desk = new SplitDesk();
-        desk.deal(7, 8, 16, -1, 5);
-        for (int call = 2; call <= 510; call++) {
-            desk.renew(7, call);
+        desk.deal(3, 0, 5, 20, 0);
+        desk.put(3, 2, 21);
+        desk.lose(3, 5);
+        Check.due("call 4", () -> desk.find(3, found ? 1 : 0), found ? 1 : Desks.STATE);
+        desk.put(3, 4, 22);
+        for (int made = 5; made < 511; made++) {
+            desk.deal(4, 8, 16, made, made);
         }
-        Check.due("call 511", () -> desk.find(7, 3), 0);
-        Check.due("call 512", () -> desk.at(0), P - 1);
+        Check.due("call 512, " + what, () -> call.answer(desk), due);
+    }
+
+    static void the512thCallIsAnsweredByTheSplits() {
+        asThe512thCall("deal", false, desk -> desk.deal(0, 8, 9, 1, 1), true);
+        asThe512thCall("deal refused", false, desk -> desk.deal(0, 9, 16, 1, 1), false);
+        asThe512thCall("put", false, desk -> desk.put(3, 5, 1), true);
+        asThe512thCall("put refused", false, desk -> desk.put(3, 6, 1), false);
+        asThe512thCall("lose", false, desk -> desk.lose(3, 1), true);
+        asThe512thCall("lose refused", false, desk -> desk.lose(3, 5), false);
+        asThe512thCall("join", false, desk -> desk.join(0, 3, 4, 2), true);
+        asThe512thCall("join refused", false, desk -> desk.join(0, 4, 4, 2), false);
+        asThe512thCall("scale", false, desk -> desk.scale(3, 2, 1), true);
+        asThe512thCall("scale refused", false, desk -> desk.scale(8, 2, 1), false);
+        asThe512thCall("renew", false, desk -> desk.renew(3, 2), true);
+        asThe512thCall("renew refused", false, desk -> desk.renew(-1, 2), false);
+        asThe512thCall("share", false, desk -> desk.share(3, 4), 22);
+        asThe512thCall("share that is lost", false, desk -> desk.share(3, 5), Desks.NO_ELEMENT);
+        asThe512thCall("split", false, desk -> desk.split(3, 2), 4);
+        asThe512thCall("split for another what", false, desk -> desk.split(3, 3), SplitDesk.NONE);
+    }
+
+    static void the512thCallIsAnsweredByWhatWasFound() {
+        asThe512thCall("find", false, desk -> desk.find(4, 3), 0);
+        asThe512thCall("find of too few", false, desk -> desk.find(3, 2), Desks.ARGUMENT);
+        asThe512thCall("find of no such curve", false, desk -> desk.find(3, 1), Desks.STATE);
+        asThe512thCall("at", true, desk -> desk.at(99), 20);
+        asThe512thCall("at of none", false, desk -> desk.at(99), Desks.NO_ELEMENT);
+        asThe512thCall("part", true, desk -> desk.part(0), 20);
+        asThe512thCall("part of none", false, desk -> desk.part(0), Desks.NO_ELEMENT);
+        asThe512thCall("part of no such k", true, desk -> desk.part(9), Desks.NO_ELEMENT);
+        asThe512thCall("wrong", true, desk -> desk.wrong(2), true);
+        asThe512thCall("wrong of one that was not", true, desk -> desk.wrong(4), false);
+        asThe512thCall("wrong of none", false, desk -> desk.wrong(2), false);
+        asThe512thCall("mend", true, desk -> desk.mend(), true);
+        asThe512thCall("mend of none", false, desk -> desk.mend(), false);
     }
 }
