@@ -7,7 +7,7 @@ import java.util.LinkedHashMap;
 import java.util.List;
 import java.util.Map;
 
-/** Every word of the document from its first line to "Not promised" has a case that holds it. */
+/** Every word of the document from its first line to "Not promised", but for the face, has a case that holds it. */
 public final class DocumentTest {
     private static final Path DOCUMENT = Path.of("..", "shared", "DOC.md");
     private static final List<Class<?>> TESTS =
